@@ -1,0 +1,119 @@
+import java.lang.reflect.InvocationTargetException;
+import java.lang.reflect.Method;
+import java.util.Arrays;
+import java.util.Comparator;
+import java.util.Random;
+
+/** Calls of the face with chosen numbers, most of them near what has a meaning; a seed always gives the same ones. */
+final class RandomCalls {
+    private static final int[] WILD = {
+        Integer.MIN_VALUE, Integer.MIN_VALUE + 1, -100001, -1, 0, 1, 2, 7, 8, 9, 10, 11, 20, 21, 49, 50, 51, 100, 101,
+        299, 300, 301, 500, 501, 999, 1000, 1001, 2000, 2001, 3000, 5000, 5001, 9999, 10000, 20000, 20001, 100000,
+        100001, 200000, 200001, Integer.MAX_VALUE - 1, Integer.MAX_VALUE,
+    };
+    private static final Method[] FACE = face();
+
+    private final Random random;
+    private int kindOfRun;
+
+    RandomCalls(long seed) {
+        random = new Random(seed);
+        kindOfRun = random.nextInt(6);
+    }
+
+    static Method[] face() {
+        Method[] all = Cycleworks.class.getMethods();
+        Method[] own = Arrays.stream(all).filter(m -> m.getDeclaringClass() == Cycleworks.class)
+                .toArray(Method[]::new);
+        Arrays.sort(own, Comparator.comparing(Method::getName));
+        return own;
+    }
+
+    /** A method of the face; a run prefers one chapter of the document. */
+    Method method() {
+        String[] chapters = {
+            "addBody conduct runEngine runPump getEnergy getTemperature getMade makingShare meanTemperature",
+            "addRow getBoiling getLiquid getVapour getPhase getDryness stateTemperature",
+            "addRow addPart addPart solve solve partWork partHeat partLost heatAhead pressureAhead plantWork clearParts",
+            "addBody setGas addStroke addStroke runCycles runCycles cardAt wasEnded gasEnergy gasPressure clearStrokes",
+            "addStream addStream heatNeeded coldNeeded pinch clearStreams claim bestWork",
+            "setGovernor setLoad runSeconds runSeconds getValve countTurns isTripped resetTrip checksum",
+        };
+        if (random.nextInt(4) == 0) {
+            return FACE[random.nextInt(FACE.length)];
+        }
+        String[] names = chapters[kindOfRun].split(" ");
+        String name = names[random.nextInt(names.length)];
+        return Arrays.stream(FACE).filter(m -> m.getName().equals(name)).findFirst().orElseThrow();
+    }
+
+    private int within(int least, int most) {
+        return least + random.nextInt(most - least + 1);
+    }
+
+    private char kind(String kinds) {
+        return random.nextInt(25) == 0 ? (char) random.nextInt(256) : kinds.charAt(random.nextInt(kinds.length()));
+    }
+
+    /** Numbers for a method, one in twenty of them wild. */
+    Object[] arguments(Method method) {
+        Object[] numbers = meant(method);
+        for (int i = 0; i < numbers.length; i++) {
+            if (numbers[i] instanceof Integer && random.nextInt(20) == 0) {
+                numbers[i] = WILD[random.nextInt(WILD.length)];
+            }
+        }
+        return numbers;
+    }
+
+    private Object[] meant(Method method) {
+        int body = within(0, 3);
+        int heat = within(1, random.nextBoolean() ? 500 : 100000);
+        int cold = within(50, 2000);
+        switch (method.getName()) {
+            case "addBody": return new Object[] {within(50, 2000), within(1, random.nextBoolean() ? 10 : 1000)};
+            case "getTemperature": case "getEnergy": return new Object[] {body};
+            case "conduct": return new Object[] {body, within(0, 3), heat};
+            case "runEngine": return new Object[] {body, within(0, 3), heat, within(0, heat / within(1, 9))};
+            case "runPump": return new Object[] {body, within(0, 3), heat, within(0, 5000)};
+            case "addRow": {
+                int rank = within(1, 30);
+                int liquid = 100 * rank + within(0, 150);
+                return new Object[] {20 * rank + within(0, 10), 50 + 25 * rank, liquid, liquid + within(1, 4000)};
+            }
+            case "getBoiling": case "getLiquid": case "getVapour": return new Object[] {within(1, 650)};
+            case "getPhase": case "getDryness": case "stateTemperature": case "solve":
+                return new Object[] {within(1, 650), within(0, random.nextInt(5) == 0 ? 20000 : 6000)};
+            case "addPart": {
+                char kind = kind("phtcv");
+                return new Object[] {kind, kind == 'h' ? within(1, 4000) : 20 * within(1, 32), within(0, 100)};
+            }
+            case "partWork": case "partHeat": case "partLost": case "heatAhead": case "pressureAhead":
+                return new Object[] {within(0, 5)};
+            case "setGas": return new Object[] {within(1, 20), within(1, 100), within(50, 2000)};
+            case "addStroke": return new Object[] {kind("aiv"), within(1, 100), body};
+            case "runCycles": return new Object[] {within(1, 10)};
+            case "cardAt": return new Object[] {within(0, 310)};
+            case "addStream": return new Object[] {within(50, 999), within(50, 999), within(1, 50)};
+            case "heatNeeded": case "coldNeeded": case "pinch": return new Object[] {within(0, 100)};
+            case "setGovernor":
+                return new Object[] {within(0, 3000), within(0, 100), within(0, 50), within(0, 5000)};
+            case "setLoad": return new Object[] {within(0, 100)};
+            case "runSeconds": return new Object[] {within(1, random.nextBoolean() ? 5 : 500)};
+            case "claim": return new Object[] {heat, within(cold, 2000), cold, within(0, heat)};
+            case "bestWork": return new Object[] {within(1, 300), within(cold, 2000), cold};
+            default: return new Object[0];
+        }
+    }
+
+    /** What a call answers, or the class of what it throws. */
+    static Object outcome(Object object, Method method, Object[] numbers) {
+        try {
+            return method.invoke(object, numbers);
+        } catch (InvocationTargetException thrown) {
+            return thrown.getCause().getClass();
+        } catch (IllegalAccessException hidden) {
+            throw new IllegalStateException(hidden);
+        }
+    }
+}
