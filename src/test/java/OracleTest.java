@@ -17,7 +17,7 @@ public final class OracleTest {
             RandomCalls calls = new RandomCalls(run);
             Cycleworks x = new Cycleworks();
             Plain plain = new Plain();
-            for (int call = 0; call < CALLS; call++) {
+            for (int call = 0; call < CALLS || calls.hasPlanned(); call++) {
                 Method method = calls.method();
                 Object[] numbers = calls.arguments(method);
                 Object due = RandomCalls.outcome(plain,

@@ -1,7 +1,10 @@
 import java.lang.reflect.InvocationTargetException;
 import java.lang.reflect.Method;
+import java.util.ArrayDeque;
 import java.util.Arrays;
 import java.util.Comparator;
+import java.util.Deque;
+import java.util.List;
 import java.util.Random;
 
 /** Calls of the face with chosen numbers, most of them near what has a meaning; a seed always gives the same ones. */
@@ -15,10 +18,95 @@ final class RandomCalls {
 
     private final Random random;
     private int kindOfRun;
+    /** Calls that come first: their method's name, then their numbers. */
+    private final Deque<Object[]> planned = new ArrayDeque<>();
+    private Object[] current = null;
 
     RandomCalls(long seed) {
         random = new Random(seed);
-        kindOfRun = random.nextInt(6);
+        kindOfRun = random.nextInt(8);
+        if (kindOfRun == 2 || kindOfRun == 6) {
+            planPlant();
+        }
+        if (kindOfRun == 3 || kindOfRun == 7) {
+            planCylinder();
+        }
+    }
+
+    private void plan(String name, Object... numbers) {
+        Object[] call = new Object[numbers.length + 1];
+        call[0] = name;
+        System.arraycopy(numbers, 0, call, 1, numbers.length);
+        planned.add(call);
+    }
+
+    /** A table, and rings that mostly come back to the pressure at which they begin. */
+    private void planPlant() {
+        int rows = within(2, 8);
+        int pressure = within(1, 30);
+        int boiling = within(50, 300);
+        int liquid = within(0, 500);
+        for (int row = 0; row < rows; row++) {
+            plan("addRow", pressure, boiling, liquid, liquid + within(1, 3000));
+            pressure += within(1, 100);
+            boiling += within(1, 80);
+            liquid += within(1, 400);
+        }
+        for (int ring = 0; ring < 6; ring++) {
+            planRing(within(1, pressure), within(1, pressure));
+        }
+    }
+
+    private void planRing(int one, int other) {
+        int low = Math.min(one, other);
+        int high = Math.max(one, other);
+        int quality = random.nextInt(3) == 0 ? 100 : within(0, 100);
+        plan("addPart", 'p', high, within(-5, 200));
+        for (int heaters = random.nextInt(3); heaters > 0; heaters--) {
+            plan("addPart", 'h', within(1, random.nextBoolean() ? 60 : 3000), 0);
+        }
+        if (random.nextBoolean()) {
+            plan("addPart", "tv".charAt(random.nextInt(2)), within(low, high), within(0, 100));
+        }
+        plan("addPart", random.nextInt(4) == 0 ? 'v' : 't', low, quality);
+        if (random.nextInt(3) > 0) {
+            plan("addPart", 'c', within(-9, 9), 0);
+        }
+        plan("solve", low, within(0, random.nextBoolean() ? 1000 : 20000));
+        for (int part = 0; part < 6; part++) {
+            for (String what : List.of("partWork", "partHeat", "partLost", "pressureAhead", "heatAhead")) {
+                plan(what, part);
+            }
+        }
+        plan("plantWork");
+        plan("isSound");
+        plan(random.nextInt(5) == 0 ? "getWork" : "clearParts");
+    }
+
+    private void planCylinder() {
+        int bodies = within(1, 4);
+        for (int body = 0; body < bodies; body++) {
+            plan("addBody", within(50, 2000), within(1, random.nextInt(3) == 0 ? 10 : 1000));
+        }
+        for (int set = 0; set < 5; set++) {
+            plan("setGas", within(1, 20), within(1, 100), within(50, 2000));
+            for (int stroke = within(1, 8); stroke > 0; stroke--) {
+                plan("addStroke", "aiv".charAt(random.nextInt(3)), within(1, 100), within(0, bodies - 1));
+            }
+            for (int run = within(1, 4); run > 0; run--) {
+                plan("runCycles", within(1, 10));
+                plan("wasEnded");
+                for (int mark : List.of(0, 1, within(2, 297), 298, 299, 300)) {
+                    plan("cardAt", mark);
+                }
+            }
+            plan("checksum");
+            plan("clearStrokes");
+        }
+    }
+
+    boolean hasPlanned() {
+        return !planned.isEmpty();
     }
 
     static Method[] face() {
@@ -31,6 +119,10 @@ final class RandomCalls {
 
     /** A method of the face; a run prefers one chapter of the document. */
     Method method() {
+        current = planned.poll();
+        if (current != null) {
+            return named((String) current[0]);
+        }
         String[] chapters = {
             "addBody conduct runEngine runPump getEnergy getTemperature getMade makingShare meanTemperature",
             "addRow getBoiling getLiquid getVapour getPhase getDryness stateTemperature",
@@ -42,8 +134,11 @@ final class RandomCalls {
         if (random.nextInt(4) == 0) {
             return FACE[random.nextInt(FACE.length)];
         }
-        String[] names = chapters[kindOfRun].split(" ");
-        String name = names[random.nextInt(names.length)];
+        String[] names = chapters[kindOfRun % 6].split(" ");
+        return named(names[random.nextInt(names.length)]);
+    }
+
+    private static Method named(String name) {
         return Arrays.stream(FACE).filter(m -> m.getName().equals(name)).findFirst().orElseThrow();
     }
 
@@ -57,6 +152,9 @@ final class RandomCalls {
 
     /** Numbers for a method, one in twenty of them wild. */
     Object[] arguments(Method method) {
+        if (current != null) {
+            return Arrays.copyOfRange(current, 1, current.length);
+        }
         Object[] numbers = meant(method);
         for (int i = 0; i < numbers.length; i++) {
             if (numbers[i] instanceof Integer && random.nextInt(20) == 0) {
