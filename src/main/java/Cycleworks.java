@@ -75,7 +75,7 @@ public final class Cycleworks {
     }
 
     public int getWork() {
-        return sums.work;
+        return sums.workTold();
     }
 
     public int getMade() {
@@ -376,7 +376,7 @@ public final class Cycleworks {
         for (int body = 0; body < bodies.count; body++) {
             sum = 31 * sum + bodies.energyOf(body);
         }
-        sum = 31 * sum + sums.work;
+        sum = 31 * sum + sums.workTold();
         sum = 31 * sum + sums.made;
         sum = 31 * sum + cylinder.energy;
         return 31 * sum + governor.speed;
@@ -427,8 +427,7 @@ public final class Cycleworks {
 
     /** Takes a heat from a body, gives one to another, and makes work of the rest, or refuses that. */
     private int move(int from, int taken, int to, int given, int disorder) {
-        if (disorder < 0 || !bodies.bears(from, taken) || !bodies.bears(to, -given)
-                || !sums.bearsWork(taken - given)) {
+        if (disorder < 0 || !bodies.bears(from, taken) || !bodies.bears(to, -given)) {
             throw new UnsupportedOperationException("it may not run so");
         }
         bodies.take(from, taken);
@@ -498,22 +497,18 @@ public final class Cycleworks {
         return dividedDown(1000 * given, cold) - dividedUp(1000 * taken, hot);
     }
 
-    /** Whether an answer of a call can tell a number. */
-    private static boolean isTellable(long number) {
-        return number >= Integer.MIN_VALUE && number <= Integer.MAX_VALUE;
-    }
-
     /** What is summed up over all calls. */
     private static final class Sums {
-        private int work = 0;
+        /** Wider than what getWork tells, so that it can be held against energies however much is put in. */
+        private long work = 0;
         private int made = 0;
         private int moves = 0;
         private int makingMoves = 0;
         /** All energy that bodies and the gas began with, what setGas replaced being taken out again. */
         private long putIn = 0;
 
-        boolean bearsWork(int more) {
-            return isTellable((long) work + more);
+        int workTold() {
+            return (int) work;
         }
 
         void addWork(int more) {
@@ -567,13 +562,13 @@ public final class Cycleworks {
             return has(body) && capacity[body] > 0 ? (energy[body] - taken) / capacity[body] : 0;
         }
 
-        /** Whether a body may lose a heat, or gain one below 0: it must not get too cold, nor beyond what is told. */
+        /** Whether a body may lose a heat, or gain one below 0: it must stay warm, and its energy an int. */
         boolean bears(int body, long taken) {
             if (!has(body)) {
                 return false;
             }
             long behind = energy[body] - taken;
-            return behind >= LEAST_TEMPERATURE * capacity[body] && isTellable(behind);
+            return behind >= LEAST_TEMPERATURE * capacity[body] && behind <= Integer.MAX_VALUE;
         }
 
         boolean flowsByItself(int from, int to, int heat) {
@@ -960,7 +955,6 @@ public final class Cycleworks {
         private int marks = 0;
         private boolean ran = false;
         private boolean ended = false;
-        private int workOfRun = 0;
 
         static boolean isStroke(char kind, int volume) {
             return kind == 'v' || (kind == 'a' || kind == 'i') && !isOutside(volume, 1, MOST_VOLUME);
@@ -1017,13 +1011,13 @@ public final class Cycleworks {
             ran = true;
             ended = false;
             marks = 0;
-            workOfRun = 0;
+            long workBefore = sums.work;
             for (int cycle = 0; cycle < many && !ended; cycle++) {
                 for (int stroke = 0; stroke < count && stroke < MOST && !ended; stroke++) {
                     runStroke(stroke, bodies, sums);
                 }
             }
-            return workOfRun;
+            return (int) (sums.work - workBefore);
         }
 
         private void runStroke(int stroke, Bodies bodies, Sums sums) {
@@ -1054,13 +1048,13 @@ public final class Cycleworks {
                     return false;
                 }
             }
-            if (behind < 1 || !isTellable(behind) || !isTellable((long) workOfRun + work) || !sums.bearsWork(work)) {
+            // energy that an int can't tell ends a run, too: the document sees no bound to what strokes heap up
+            if (behind < 1 || behind > Integer.MAX_VALUE) {
                 return false;
             }
             mark(pressure);
             bodies.take(partner, (int) taken);
             sums.addWork(work);
-            workOfRun += work;
             volume += way;
             energy = (int) behind;
             return true;
