@@ -164,6 +164,7 @@ public final class PromiseTest {
         due("7 work below 0", () -> x.runPump(0, 1, 1, -1), RANGE);
         due("7 much work", () -> x.runPump(0, 1, 1, 100001), RANGE);
         // 300 taken at 300 are 1000; 399 given at 400 are 997
+        due("7 no work upward", () -> x.runPump(0, 1, 300, 0), NOT);
         due("7 little work", () -> x.runPump(0, 1, 300, 99), NOT);
         due("7 just enough", () -> x.runPump(0, 1, 300, 100), 0);
         due("7 from", () -> x.getEnergy(0), 29700);
@@ -176,6 +177,10 @@ public final class PromiseTest {
         due("8 more put in", () -> x.getWork(), -100100);
         due("9 made", () -> x.getMade(), 335370);
         due("50 one of two", () -> x.makingShare(), 0.5f);
+        // 10 given at 670 are 14, 10 taken at 1400 are 8
+        x.addBody(670, 1000);
+        x.addBody(1400, 1000);
+        due("7 no work downward", () -> x.runPump(4, 3, 10, 0), 6);
         due("52 sound", () -> x.isSound(), true);
     }
 
@@ -190,6 +195,7 @@ public final class PromiseTest {
         due("10 vapour -1", () -> x.addRow(1, 50, 0, -1), RANGE);
         due("10 vapour 10000", () -> x.addRow(1, 50, 0, 10000), RANGE);
         due("10 vapour as liquid", () -> x.addRow(1, 50, 5, 5), NOT);
+        due("10 both 0", () -> x.addRow(1, 50, 0, 0), NOT);
         due("10 first", () -> x.addRow(1, 50, 0, 9999), 1);
         due("10 same pressure", () -> x.addRow(1, 51, 1, 9999), NOT);
         due("10 same boiling", () -> x.addRow(2, 50, 1, 9999), NOT);
@@ -203,6 +209,7 @@ public final class PromiseTest {
         due("10 a ninth that is not greater", () -> x.addRow(8, 999, 9998, 9999), NOT);
         due("10 a wrong ninth", () -> x.addRow(1001, 999, 9998, 9999), RANGE);
         due("11 a ninth changes nothing", () -> x.getBoiling(9), NONE);
+        due("11 the eighth", () -> x.getBoiling(8), 58);
     }
 
     private static void betweenRows() {
@@ -333,6 +340,10 @@ public final class PromiseTest {
         due("19 does not lead up", () -> x.solve(100, 500), NOT);
         due("19 up, but not in round 2", () -> x.solve(10, 500), NOT);
         due("19 the heat of a pump", () -> x.solve(10, 19992), NOT);
+        x.addPart('c', 0, 0);
+        x.addPart('v', 10, 0);
+        due("19 20000 behind a pump", () -> x.solve(10, 19991), 2);
+        due("19 above 20000 behind a pump", () -> x.solve(10, 19992), NOT);
         x.clearParts();
         x.addPart('p', 201, 0);
         due("19 a pump beyond the rows", () -> x.solve(10, 500), NOT);
@@ -397,6 +408,30 @@ public final class PromiseTest {
         due("22 loses nothing", () -> x.partLost(1), 0);
         due("21 the work of the pump", () -> x.partHeat(2), -9);
         due("19 with vapour", () -> x.solve(10, 2600), 2);
+        // far more than vapour at 100: hot enough, but with less heat than liquid has at 10 there is no work
+        Cycleworks y = new Cycleworks();
+        y.addRow(10, 100, 400, 9000);
+        y.addRow(20, 500, 401, 9001);
+        y.addPart('t', 10, 100);
+        y.addPart('h', 1, 0);
+        y.addPart('p', 20, 0);
+        // 301 is 99 short of the 400 at 10; 2 more each round, till 403 makes 3 * 400 / 500 = 2 in the 52nd
+        due("19 hot, but without heat", () -> y.solve(20, 301), 52);
+        due("20 then with some", () -> y.partWork(0), 2);
+        due("19 60 rounds are too few", () -> y.solve(20, 283), NONE);
+        due("19 60 rounds are enough", () -> y.solve(20, 285), 60);
+        y.clearParts();
+        y.addPart('t', 10, 100);
+        y.addPart('p', 20, 0);
+        y.addPart('h', 1, 0);
+        y.addPart('v', 10, 0);
+        y.addPart('p', 20, 0);
+        y.addPart('c', 0, 0);
+        // ahead 401 at 500 degrees: 1 * 400 / 500 is cut to 0
+        due("19 with a little heat", () -> y.solve(20, 401), 1);
+        due("22 cut", () -> y.partLost(0), 0);
+        due("21 what a pump of 10 and a heater gave", () -> y.partHeat(5), -3);
+        due("25 two pumps", () -> y.plantWork(), -2);
         x.clearParts();
         x.addPart('v', 10, 0);
         x.addPart('c', 0, 0);
@@ -635,6 +670,18 @@ public final class PromiseTest {
         due("42 none", () -> x.runSeconds(0), RANGE);
         due("42 many", () -> x.runSeconds(501), RANGE);
         due("42 at rest", () -> x.runSeconds(500), 1000);
+        Cycleworks y = new Cycleworks();
+        y.setLoad(40);
+        // as it is at first: 1040 at 50, 1064 at 46, 1064 at 40
+        due("40 the gain at first", () -> y.runSeconds(3), 1064);
+        due("43 the gain at first", () -> y.getValve(), 40);
+        due("44 no turn at first", () -> y.countTurns(), 0);
+        due("40 gain 0", () -> y.setGovernor(3000, 0, 0, 3000), 1000);
+        due("43 gain 0", () -> y.runSeconds(1) + y.getValve(), 1064 + 40);
+        Cycleworks z = new Cycleworks();
+        z.setLoad(47);
+        due("40 no stiction at first", () -> z.runSeconds(2), 1020);
+        due("43 no stiction at first", () -> z.getValve(), 49);
         due("43 at rest", () -> x.getValve(), 50);
         due("41 load", () -> x.setLoad(47), 50);
         due("41 load again", () -> x.setLoad(47), 47);
@@ -728,6 +775,7 @@ public final class PromiseTest {
         due("47 higher", () -> x.claim(1, 300, 301, 1), RANGE);
         due("47 work -1", () -> x.claim(1, 600, 300, -1), RANGE);
         due("47 work 200001", () -> x.claim(1, 600, 300, 200001), RANGE);
+        due("47 no work", () -> x.claim(1200, 600, 300, 0), '-');
         due("47 much work", () -> x.claim(100000, 2000, 50, 200000), 'e');
         due("47 all work", () -> x.claim(1000, 600, 300, 1000), 'd');
         due("47 some more", () -> x.claim(1000, 600, 300, 1001), 'e');
