@@ -17,7 +17,6 @@ public final class Cycleworks {
     private final Cylinder cylinder = new Cylinder();
     private final Streams streams = new Streams();
     private final Governor governor = new Governor();
-
     private final Sums sums = new Sums();
 
     public Cycleworks() {
