@@ -1,3 +1,4 @@
+import java.util.Arrays;
 import java.util.NoSuchElementException;
 
 /** Heat made into work and back: bodies, vapours, a plant, a cylinder, streams, a governor and claims. */
@@ -20,7 +21,7 @@ public final class Cycleworks {
     private final Sums sums = new Sums();
 
     public Cycleworks() {
-        sums.putIn = cylinder.energy;
+        sums.putIn = cylinder.energy.low();
     }
 
     // ---- bodies ----
@@ -38,18 +39,18 @@ public final class Cycleworks {
 
     public int getTemperature(int body) throws IndexOutOfBoundsException {
         requireBody(body);
-        return bodies.temperatureOf(body);
+        return (int) bodies.temperatureOf(body).low();
     }
 
     public int getEnergy(int body) throws IndexOutOfBoundsException {
         requireBody(body);
-        return bodies.energyOf(body);
+        return (int) bodies.energyOf(body).low();
     }
 
     public int conduct(int from, int to, int heat)
             throws IndexOutOfBoundsException, IllegalArgumentException, UnsupportedOperationException {
         requireTwoBodies(from, to, heat);
-        if (!bodies.flowsByItself(from, to, heat)) {
+        if (!bodies.bears(from, heat) || !bodies.flowsByItself(from, to, heat)) {
             throw new UnsupportedOperationException("heat does not go to the hotter by itself");
         }
         return move(from, heat, to, heat, Math.max(0, bodies.disorderOfMove(from, heat, to, heat)));
@@ -74,7 +75,7 @@ public final class Cycleworks {
     }
 
     public int getWork() {
-        return sums.workTold();
+        return (int) sums.work;
     }
 
     public int getMade() {
@@ -198,10 +199,10 @@ public final class Cycleworks {
                 || isOutside(temperature, LEAST_TEMPERATURE, MOST_TEMPERATURE)) {
             throw new IllegalArgumentException("a number is out of range");
         }
-        int before = cylinder.energy;
+        long before = cylinder.energy.low();
         cylinder.fill(amount, volume, temperature);
-        sums.putIn += cylinder.energy - before;
-        return before;
+        sums.putIn += cylinder.energy.low() - before;
+        return (int) before;
     }
 
     public int addStroke(char kind, int volume, int body)
@@ -229,7 +230,14 @@ public final class Cycleworks {
         if (cylinder.isEmpty()) {
             throw new IllegalStateException("there are no strokes");
         }
-        return cylinder.run(many, bodies, sums);
+        long workBefore = sums.work;
+        cylinder.beginRun();
+        for (int cycle = 0; cycle < many; cycle++) {
+            for (int stroke = 0; stroke < cylinder.count; stroke++) {
+                cylinder.runStroke(stroke, bodies, sums);
+            }
+        }
+        return (int) (sums.work - workBefore);
     }
 
     public boolean wasEnded() throws IllegalStateException {
@@ -240,11 +248,11 @@ public final class Cycleworks {
     }
 
     public int gasEnergy() {
-        return cylinder.energy;
+        return (int) cylinder.energy.low();
     }
 
     public int gasPressure() {
-        return cylinder.pressureNow();
+        return (int) cylinder.pressureNow().low();
     }
 
     public int gasVolume() {
@@ -373,11 +381,11 @@ public final class Cycleworks {
     public long checksum() {
         long sum = 7;
         for (int body = 0; body < bodies.count; body++) {
-            sum = 31 * sum + bodies.energyOf(body);
+            sum = 31 * sum + bodies.energyOf(body).low();
         }
-        sum = 31 * sum + sums.workTold();
+        sum = 31 * sum + sums.work;
         sum = 31 * sum + sums.made;
-        sum = 31 * sum + cylinder.energy;
+        sum = 31 * sum + cylinder.energy.low();
         return 31 * sum + governor.speed;
     }
 
@@ -392,11 +400,11 @@ public final class Cycleworks {
         if (bodies.count == 0) {
             throw new ArithmeticException("there are no bodies");
         }
-        return (double) bodies.sumOfTemperatures() / (double) bodies.count;
+        return bodies.sumOfTemperatures().toDouble() / (double) bodies.count;
     }
 
     public boolean isSound() {
-        return bodies.sumOfEnergies() + cylinder.energy + sums.work == sums.putIn
+        return bodies.lowOfEnergies() + cylinder.energy.low() + sums.work == sums.putIn
                 && bodies.areWarm() && sums.made >= 0
                 && (!ring.isSolved || ring.solved.sumOfWork() == ring.solved.sumOfHeat());
     }
@@ -426,7 +434,7 @@ public final class Cycleworks {
 
     /** Takes a heat from a body, gives one to another, and makes work of the rest, or refuses that. */
     private int move(int from, int taken, int to, int given, int disorder) {
-        if (disorder < 0 || !bodies.bears(from, taken) || !bodies.bears(to, -given)) {
+        if (disorder < 0 || !bodies.bears(from, taken)) {
             throw new UnsupportedOperationException("it may not run so");
         }
         bodies.take(from, taken);
@@ -492,13 +500,16 @@ public final class Cycleworks {
         return by < 1 ? 0 : number / by;
     }
 
-    private static int disorderMade(int taken, int hot, int given, int cold) {
-        return dividedDown(1000 * given, cold) - dividedUp(1000 * taken, hot);
+    /** A heat is so small that a temperature beyond an int divides it as the greatest int does. */
+    private static int disorderMade(int taken, long hot, int given, long cold) {
+        int divisorOfTaken = (int) Math.min(hot, Integer.MAX_VALUE);
+        int divisorOfGiven = (int) Math.min(cold, Integer.MAX_VALUE);
+        return dividedDown(1000 * given, divisorOfGiven) - dividedUp(1000 * taken, divisorOfTaken);
     }
 
     /** What is summed up over all calls. */
     private static final class Sums {
-        /** Wider than what getWork tells, so that it can be held against energies however much is put in. */
+        /** Beyond a long only the low bits of a work, and of what was put in, are ever told or held against others. */
         private long work = 0;
         private int made = 0;
         private int moves = 0;
@@ -506,11 +517,7 @@ public final class Cycleworks {
         /** All energy that bodies and the gas began with, what setGas replaced being taken out again. */
         private long putIn = 0;
 
-        int workTold() {
-            return (int) work;
-        }
-
-        void addWork(int more) {
+        void addWork(long more) {
             work += more;
         }
 
@@ -523,13 +530,175 @@ public final class Cycleworks {
         }
     }
 
+    /** A whole number of 0 or more, without a bound: what strokes heap up leaves every int and long. */
+    private static final class Whole {
+        /** So few that a digit times any capacity is a long. */
+        private static final int BITS = 50;
+        private static final long BASE = 1L << BITS;
+        /** Twice what 512 calls of 10 cycles can need: of 8 strokes 4 lead in, each of which adds 4 bits at most. */
+        private static final int MOST_DIGITS = 4096;
+
+        /** The lowest digit, nearly always the only one; the others stand behind it. */
+        private long first = 0;
+        private long[] others = new long[1];
+        private int count = 0;
+
+        private long digitAt(int place) {
+            if (place <= 0 || place >= count || place > others.length) {
+                return place == 0 ? first : 0;
+            }
+            return others[place - 1];
+        }
+
+        private void write(int place, long digit) {
+            if (place == 0) {
+                first = digit;
+            } else if (place > 0 && place <= others.length) {
+                others[place - 1] = digit;
+            }
+        }
+
+        private void makeRoom(int places) {
+            if (places > others.length + 1 && others.length < MOST_DIGITS) {
+                others = Arrays.copyOf(others, Math.min(2 * places, MOST_DIGITS));
+            }
+        }
+
+        private void endAt(int places) {
+            count = Math.min(places, others.length + 1);
+            while (count > 0 && digitAt(count - 1) == 0) {
+                count--;
+            }
+        }
+
+        void set(long number) {
+            first = number & (BASE - 1);
+            count = first == 0 ? 0 : 1;
+            if (number >= BASE) {
+                write(1, number >> BITS);
+                count = 2;
+            }
+        }
+
+        /** Adds a number, which may be below 0; the sum may not. */
+        void add(long number) {
+            if (count <= 1) {
+                set(first + number);
+                return;
+            }
+            int places = count + 1;
+            makeRoom(places);
+            long carry = number;
+            for (int place = 0; place < places; place++) {
+                long sum = digitAt(place) + carry;
+                write(place, sum & (BASE - 1));
+                carry = sum >> BITS;
+            }
+            endAt(places);
+        }
+
+        void copy(Whole other) {
+            setTimes(other, 1);
+        }
+
+        /** Becomes a number of times another one. */
+        void setTimes(Whole other, int times) {
+            set(0);
+            setSum(this, other, times);
+        }
+
+        /** Becomes one and a number of times another, which may be below 0; the sum may not. */
+        void setSum(Whole one, Whole other, int times) {
+            if (one.count <= 1 && other.count <= 1) {
+                set(one.first + times * other.first);
+                return;
+            }
+            int places = Math.max(one.count, other.count) + 1;
+            makeRoom(places);
+            long carry = 0;
+            for (int place = 0; place < places; place++) {
+                long sum = one.digitAt(place) + times * other.digitAt(place) + carry;
+                write(place, sum & (BASE - 1));
+                carry = sum >> BITS;
+            }
+            endAt(places);
+        }
+
+        /** Becomes one divided by a number above 0, cut. */
+        void setQuotient(Whole one, int by) {
+            if (by < 1 || one.count <= 1) {
+                set(by < 1 ? 0 : one.first / by);
+                return;
+            }
+            int places = one.count;
+            makeRoom(places);
+            long rest = 0;
+            for (int place = places - 1; place >= 0; place--) {
+                long whole = rest * BASE + one.digitAt(place);
+                write(place, whole / by);
+                rest = whole % by;
+            }
+            endAt(places);
+        }
+
+        boolean isZero() {
+            return count == 0;
+        }
+
+        boolean isBelow(Whole other) {
+            if (count != other.count) {
+                return count < other.count;
+            }
+            int place = count - 1;
+            while (place > 0 && digitAt(place) == other.digitAt(place)) {
+                place--;
+            }
+            return digitAt(place) < other.digitAt(place);
+        }
+
+        /** The number, or one that is greater than all that heats and capacities are held against. */
+        long capped() {
+            return count > 1 ? BASE : first;
+        }
+
+        /** The number as a long tells it: its low bits. */
+        long low() {
+            return count > 1 ? first + (digitAt(1) << BITS) : first;
+        }
+
+        private int countBits() {
+            return count == 0 ? 0 : (count - 1) * BITS + 64 - Long.numberOfLeadingZeros(digitAt(count - 1));
+        }
+
+        /** The nearest double: of all bits behind the first 62 only whether there is one matters. */
+        double toDouble() {
+            long leading = 0;
+            double unit = 1;
+            for (int bit = countBits() - 1; bit >= 0; bit--) {
+                long value = (digitAt(bit / BITS) >> (bit % BITS)) & 1;
+                if (leading < 1L << 61) {
+                    leading = 2 * leading + value;
+                } else {
+                    leading = leading | value;
+                    unit = 2 * unit;
+                }
+            }
+            return (double) leading * unit;
+        }
+    }
+
     /** Bodies with their capacities and energies. */
     private static final class Bodies {
         private static final int MOST = 8;
 
-        private final int[] capacity = new int[MOST];
-        private final int[] energy = new int[MOST];
+        private final int[] capacities = new int[MOST];
+        private final Whole[] energies = new Whole[MOST];
         private int count = 0;
+        private final Whole nothing = new Whole();
+        private final Whole degrees = new Whole();
+        private final Whole otherDegrees = new Whole();
+        private final Whole share = new Whole();
+        private final Whole rest = new Whole();
 
         boolean isFull() {
             return count >= MOST;
@@ -539,72 +708,105 @@ public final class Cycleworks {
             return body >= 0 && body < count && body < MOST;
         }
 
-        int append(int temperature, int capacityOfNew) {
+        int append(int temperature, int capacity) {
             if (isFull()) {
                 return -1;
             }
-            capacity[count] = capacityOfNew;
-            energy[count] = temperature * capacityOfNew;
+            capacities[count] = capacity;
+            energies[count] = new Whole();
+            energies[count].set(temperature * capacity);
             return count++;
         }
 
-        int energyOf(int body) {
-            return has(body) ? energy[body] : 0;
+        Whole energyOf(int body) {
+            Whole energy = has(body) ? energies[body] : null;
+            return energy == null ? nothing : energy;
         }
 
-        int temperatureOf(int body) {
-            return temperatureBehind(body, 0);
+        private int capacityOf(int body) {
+            return has(body) ? capacities[body] : 1;
         }
 
-        /** The temperature that a body has behind a heat was taken from it. */
-        private int temperatureBehind(int body, int taken) {
-            return has(body) && capacity[body] > 0 ? (energy[body] - taken) / capacity[body] : 0;
+        /** The temperature, till another one is reckoned. */
+        Whole temperatureOf(int body) {
+            degrees.setQuotient(energyOf(body), capacityOf(body));
+            return degrees;
         }
 
-        /** Whether a body may lose a heat, or gain one below 0: it must stay warm, and its energy an int. */
-        boolean bears(int body, long taken) {
-            if (!has(body)) {
-                return false;
-            }
-            long behind = energy[body] - taken;
-            return behind >= LEAST_TEMPERATURE * capacity[body] && behind <= Integer.MAX_VALUE;
+        private boolean isWarm(int body, Whole energy, int taken) {
+            return energy.capped() - taken >= LEAST_TEMPERATURE * capacityOf(body);
         }
 
+        /** Whether a body stays warm when it loses a heat. */
+        boolean bears(int body, int taken) {
+            return has(body) && isWarm(body, energyOf(body), taken);
+        }
+
+        /** Whether heat flows, by itself, from a body that bears it. */
         boolean flowsByItself(int from, int to, int heat) {
-            return temperatureOf(from) >= temperatureOf(to)
-                    && temperatureBehind(from, heat) >= temperatureBehind(to, -heat);
+            return isAsWarm(from, to, 0) && isAsWarm(from, to, heat);
+        }
+
+        /** Whether a body is no colder than another one behind it gave it a heat. */
+        private boolean isAsWarm(int body, int other, int given) {
+            degrees.copy(energyOf(body));
+            degrees.add(-given);
+            degrees.setQuotient(degrees, capacityOf(body));
+            otherDegrees.copy(energyOf(other));
+            otherDegrees.add(given);
+            otherDegrees.setQuotient(otherDegrees, capacityOf(other));
+            return !degrees.isBelow(otherDegrees);
         }
 
         int disorderOfMove(int from, int taken, int to, int given) {
-            return disorderMade(taken, temperatureOf(from), given, temperatureOf(to));
+            return disorderMade(taken, temperatureOf(from).capped(), given, temperatureOf(to).capped());
         }
 
         void take(int body, int heat) {
             if (has(body)) {
-                energy[body] -= heat;
+                energyOf(body).add(-heat);
             }
         }
 
-        long sumOfEnergies() {
+        /** Gives a gas the energy of a body's temperature, from the body; false, without that, if it got too cold. */
+        boolean exchange(int body, int capacityOfGas, Whole gas) {
+            Whole energy = energyOf(body);
+            share.setTimes(temperatureOf(body), capacityOfGas);
+            rest.setSum(energy, gas, 1);
+            if (rest.isBelow(share)) {
+                return false;
+            }
+            rest.setSum(rest, share, -1);
+            if (!has(body) || !isWarm(body, rest, 0)) {
+                return false;
+            }
+            energy.copy(rest);
+            gas.copy(share);
+            return true;
+        }
+
+        /** The sum of all energies, as a long tells it. */
+        long lowOfEnergies() {
             long sum = 0;
             for (int body = 0; body < count; body++) {
-                sum += energyOf(body);
+                sum += energyOf(body).low();
             }
             return sum;
         }
 
-        long sumOfTemperatures() {
-            long sum = 0;
+        /** The sum, till another one is reckoned. */
+        Whole sumOfTemperatures() {
+            rest.set(0);
             for (int body = 0; body < count; body++) {
-                sum += temperatureOf(body);
+                rest.setSum(rest, temperatureOf(body), 1);
             }
-            return sum;
+            return rest;
         }
 
         boolean areWarm() {
             boolean warm = true;
             for (int body = 0; body < count; body++) {
-                warm = warm && temperatureOf(body) >= LEAST_TEMPERATURE;
+                warm = warm && isWarm(body, energyOf(body), 0);
             }
             return warm;
         }
@@ -947,13 +1149,19 @@ public final class Cycleworks {
         private final int[] goals = new int[MOST];
         private final int[] partners = new int[MOST];
         private int count = 0;
-        private int amount = 1;
-        private int volume = 10;
-        private int energy = 900;
+        private int amount;
+        private int volume;
+        private Whole energy = new Whole();
+        private Whole energyBehind = new Whole();
+        private final Whole pressure = new Whole();
         private final int[] card = new int[MOST_MARKS];
         private int marks = 0;
         private boolean ran = false;
         private boolean ended = false;
+
+        Cylinder() {
+            fill(1, 10, 300);
+        }
 
         static boolean isStroke(char kind, int volume) {
             return kind == 'v' || (kind == 'a' || kind == 'i') && !isOutside(volume, 1, MOST_VOLUME);
@@ -966,7 +1174,7 @@ public final class Cycleworks {
         void fill(int newAmount, int newVolume, int temperature) {
             amount = newAmount;
             volume = newVolume;
-            energy = 3 * newAmount * temperature;
+            energy.set(3 * newAmount * temperature);
         }
 
         boolean isFull() {
@@ -993,8 +1201,11 @@ public final class Cycleworks {
             return before;
         }
 
-        int pressureNow() {
-            return volume < 1 ? 0 : (int) (2L * energy / (3L * volume));
+        /** The pressure, till another one is reckoned. */
+        Whole pressureNow() {
+            pressure.setTimes(energy, 2);
+            pressure.setQuotient(pressure, 3 * volume);
+            return pressure;
         }
 
         boolean hasMark(int index) {
@@ -1005,22 +1216,15 @@ public final class Cycleworks {
             return hasMark(index) ? card[index] : 0;
         }
 
-        /** Runs the strokes over and over; returns the work made. */
-        int run(int many, Bodies bodies, Sums sums) {
+        void beginRun() {
             ran = true;
             ended = false;
             marks = 0;
-            long workBefore = sums.work;
-            for (int cycle = 0; cycle < many && !ended; cycle++) {
-                for (int stroke = 0; stroke < count && stroke < MOST && !ended; stroke++) {
-                    runStroke(stroke, bodies, sums);
-                }
-            }
-            return (int) (sums.work - workBefore);
         }
 
-        private void runStroke(int stroke, Bodies bodies, Sums sums) {
-            if (stroke < 0 || stroke >= MOST) {
+        /** Goes on with a run by a stroke, unless it was ended. */
+        void runStroke(int stroke, Bodies bodies, Sums sums) {
+            if (ended || stroke < 0 || stroke >= count || stroke >= MOST) {
                 return;
             }
             int partner = partners[stroke];
@@ -1036,32 +1240,25 @@ public final class Cycleworks {
 
         /** Goes one step, out by 1, in by -1, neither by 0; false, without any of it, if the run must end. */
         private boolean step(int way, int partner, Bodies bodies, Sums sums) {
-            int pressure = pressureNow();
-            int work = way * pressure;
-            long behind = (long) energy - work;
-            long taken = 0;
-            if (partner != NO_BODY) {
-                taken = 3L * amount * bodies.temperatureOf(partner) - behind;
-                behind += taken;
-                if (!bodies.bears(partner, taken)) {
-                    return false;
-                }
-            }
-            // energy that an int can't tell ends a run, too: the document sees no bound to what strokes heap up
-            if (behind < 1 || behind > Integer.MAX_VALUE) {
+            Whole ahead = pressureNow();
+            energyBehind.setSum(energy, ahead, -way);
+            boolean goesOn = partner == NO_BODY ? !energyBehind.isZero()
+                    : bodies.exchange(partner, 3 * amount, energyBehind);
+            if (!goesOn) {
                 return false;
             }
-            mark(pressure);
-            bodies.take(partner, (int) taken);
-            sums.addWork(work);
+            mark((int) ahead.low());
+            sums.addWork(way * ahead.low());
             volume += way;
-            energy = (int) behind;
+            Whole before = energy;
+            energy = energyBehind;
+            energyBehind = before;
             return true;
         }
 
-        private void mark(int pressure) {
+        private void mark(int pressureTold) {
             if (marks < MOST_MARKS) {
-                card[marks] = pressure;
+                card[marks] = pressureTold;
                 marks++;
             }
         }

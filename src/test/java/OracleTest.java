@@ -11,7 +11,6 @@ public final class OracleTest {
 
     public static void main(String[] args) throws Exception {
         Check check = new Check();
-        int beyond = 0;
         int wrongRuns = 0;
         for (int run = 0; run < RUNS && wrongRuns < 5; run++) {
             RandomCalls calls = new RandomCalls(run);
@@ -22,10 +21,6 @@ public final class OracleTest {
                 Object[] numbers = calls.arguments(method);
                 Object due = RandomCalls.outcome(plain,
                         Plain.class.getMethod(method.getName(), method.getParameterTypes()), numbers);
-                if (plain.isBeyond()) {
-                    beyond++;
-                    break;
-                }
                 Object got = RandomCalls.outcome(x, method, numbers);
                 check.is("run " + run + ", call " + call + ": " + method.getName() + Arrays.toString(numbers), got, due);
                 if (!due.equals(got)) {
@@ -33,10 +28,9 @@ public final class OracleTest {
                     break;
                 }
             }
-            check.is("run " + run + ": checksum", x.checksum() == plain.checksum() || plain.isBeyond(), true);
+            check.is("run " + run + ": checksum", x.checksum(), plain.checksum());
             check.is("run " + run + ": isSound", x.isSound(), true);
         }
-        System.out.println(beyond + " of " + RUNS + " runs were left where a number outgrew the face");
         check.end();
     }
 }

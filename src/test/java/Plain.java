@@ -1,14 +1,16 @@
+import java.math.BigInteger;
 import java.util.ArrayList;
 import java.util.List;
 import java.util.NoSuchElementException;
 
 /**
- * The document once more, as slowly and plainly as it reads: degree by degree, work by work, in wide numbers.
+ * The document once more, as slowly and plainly as it reads: degree by degree, work by work, in numbers without a bound
+ * where energies are reckoned; an answer that an int can't tell is told by its low bits.
  * OracleTest compares Cycleworks with it. Methods bear the names of the document's face.
  */
 final class Plain {
-    private final List<long[]> bodies = new ArrayList<>(); // capacity, energy
-    private long work = 0;
+    private final List<BigInteger[]> bodies = new ArrayList<>(); // capacity, energy
+    private BigInteger work = BigInteger.ZERO;
     private long made = 0;
     private int done = 0;
     private int making = 0;
@@ -17,10 +19,10 @@ final class Plain {
     private List<long[]> solved = null; // work, heat, lost, pressure ahead, heat ahead
     private long amount = 1;
     private long volume = 10;
-    private long energy = 900;
+    private BigInteger energy = big(900);
     private final List<Object[]> strokes = new ArrayList<>();
     private Boolean ended = null;
-    private final List<Long> card = new ArrayList<>();
+    private final List<BigInteger> card = new ArrayList<>();
     private final List<int[]> streams = new ArrayList<>();
     private int set = 1000;
     private int gain = 10;
@@ -33,13 +35,18 @@ final class Plain {
     private int turned = 0;
     private boolean trip = false;
 
-    /** Whether some number has grown beyond what the face can tell: what is due then is not in the document. */
-    boolean isBeyond() {
-        boolean beyond = Math.abs(work) > Integer.MAX_VALUE || energy > Integer.MAX_VALUE;
-        for (long[] body : bodies) {
-            beyond |= body[1] > Integer.MAX_VALUE;
-        }
-        return beyond;
+    private static BigInteger big(long number) {
+        return BigInteger.valueOf(number);
+    }
+
+    /** Cut downward, like Math.floorDiv. */
+    private static BigInteger divided(BigInteger number, BigInteger by) {
+        BigInteger[] parts = number.divideAndRemainder(by);
+        return parts[1].signum() < 0 ? parts[0].subtract(BigInteger.ONE) : parts[0];
+    }
+
+    private static boolean isLess(BigInteger one, BigInteger other) {
+        return one.compareTo(other) < 0;
     }
 
     private static void range(long number, long least, long most) {
@@ -54,51 +61,55 @@ final class Plain {
         if (bodies.size() == 8) {
             throw new IllegalStateException();
         }
-        bodies.add(new long[] {capacity, (long) capacity * temperature});
+        bodies.add(new BigInteger[] {big(capacity), big((long) capacity * temperature)});
         return bodies.size() - 1;
     }
 
-    private long[] body(int number) {
+    private BigInteger[] body(int number) {
         if (number < 0 || number >= bodies.size()) {
             throw new IndexOutOfBoundsException();
         }
         return bodies.get(number);
     }
 
-    private static long degrees(long[] body) {
-        return Math.floorDiv(body[1], body[0]);
+    private static BigInteger degrees(BigInteger[] body) {
+        return divided(body[1], body[0]);
+    }
+
+    private static boolean isCold(BigInteger[] body) {
+        return isLess(degrees(body), big(50));
     }
 
     public int getTemperature(int body) {
-        return (int) degrees(body(body));
+        return degrees(body(body)).intValue();
     }
 
     public int getEnergy(int body) {
-        return (int) body(body)[1];
+        return body(body)[1].intValue();
     }
 
-    private static long makes(long taken, long hot, long given, long cold) {
-        return Math.floorDiv(1000 * given, cold) + Math.floorDiv(-1000 * taken, hot);
+    private static long makes(long taken, BigInteger hot, long given, BigInteger cold) {
+        return divided(big(1000 * given), cold).add(divided(big(-1000 * taken), hot)).longValueExact();
     }
 
     private int go(int from, int to, long taken, long given, boolean byItself) {
-        long[] a = body(from);
-        long[] b = body(to);
+        BigInteger[] a = body(from);
+        BigInteger[] b = body(to);
         long makes = makes(taken, degrees(a), given, degrees(b));
-        long[] aBehind = {a[0], a[1] - taken};
-        long[] bBehind = {b[0], b[1] + given};
+        BigInteger[] aBehind = {a[0], a[1].subtract(big(taken))};
+        BigInteger[] bBehind = {b[0], b[1].add(big(given))};
         if (byItself) {
-            if (degrees(a) < degrees(b) || degrees(aBehind) < degrees(bBehind)) {
+            if (isLess(degrees(a), degrees(b)) || isLess(degrees(aBehind), degrees(bBehind))) {
                 throw new UnsupportedOperationException();
             }
             makes = Math.max(makes, 0);
         }
-        if (makes < 0 || degrees(aBehind) < 50) {
+        if (makes < 0 || isCold(aBehind)) {
             throw new UnsupportedOperationException();
         }
         bodies.set(from, aBehind);
         bodies.set(to, bBehind);
-        work += taken - given;
+        work = work.add(big(taken - given));
         made += makes;
         done++;
         making += makes > 0 ? 1 : 0;
@@ -130,7 +141,7 @@ final class Plain {
     }
 
     public int getWork() {
-        return (int) work;
+        return work.intValue();
     }
 
     public int getMade() {
@@ -357,10 +368,10 @@ final class Plain {
         range(amount, 1, 20);
         range(volume, 1, 100);
         range(temperature, 50, 2000);
-        int before = (int) energy;
+        int before = energy.intValue();
         this.amount = amount;
         this.volume = volume;
-        energy = 3L * amount * temperature;
+        energy = big(3L * amount * temperature);
         return before;
     }
 
@@ -387,28 +398,26 @@ final class Plain {
 
     /** One step out (1), in (-1) or neither (0); false if the run ends ahead of it. */
     private boolean step(int out, char kind, int number) {
-        long pressure = gasPressure();
-        long behind = energy - out * pressure;
+        BigInteger pressure = pressure();
+        BigInteger done = pressure.multiply(big(out));
+        BigInteger behind = energy.subtract(done);
         if (kind != 'a') {
-            long[] body = body(number);
-            long lacks = 3 * amount * degrees(body) - behind;
-            long[] left = {body[0], body[1] - lacks};
-            if (degrees(left) < 50) {
-                return false;
-            }
-            behind += lacks;
-            if (behind < 1) {
+            BigInteger[] body = body(number);
+            BigInteger lacks = degrees(body).multiply(big(3 * amount)).subtract(behind);
+            BigInteger[] left = {body[0], body[1].subtract(lacks)};
+            behind = behind.add(lacks);
+            if (isCold(left) || behind.signum() <= 0) {
                 return false;
             }
             bodies.set(number, left);
         }
-        if (behind < 1) {
+        if (behind.signum() <= 0) {
             return false;
         }
         card.add(pressure);
         energy = behind;
         volume += out;
-        work += out * pressure;
+        work = work.add(done);
         return true;
     }
 
@@ -437,7 +446,7 @@ final class Plain {
         if (strokes.isEmpty()) {
             throw new IllegalStateException();
         }
-        long before = work;
+        BigInteger before = work;
         card.clear();
         ended = false;
         for (int cycle = 0; cycle < many; cycle++) {
@@ -445,7 +454,7 @@ final class Plain {
                 ended = ended || !stroke(stroke);
             }
         }
-        return (int) (work - before);
+        return work.subtract(before).intValue();
     }
 
     public boolean wasEnded() {
@@ -456,11 +465,15 @@ final class Plain {
     }
 
     public int gasEnergy() {
-        return (int) energy;
+        return energy.intValue();
+    }
+
+    private BigInteger pressure() {
+        return divided(energy.multiply(big(2)), big(3 * volume));
     }
 
     public int gasPressure() {
-        return (int) (2 * energy / (3 * volume));
+        return pressure().intValue();
     }
 
     public int gasVolume() {
@@ -604,7 +617,7 @@ final class Plain {
     public char claim(int heat, int hot, int cold, int work) {
         claimRange(heat, hot, cold);
         range(work, 0, 200000);
-        return work > heat ? 'e' : makes(heat, hot, heat - work, cold) < 0 ? 'd' : '-';
+        return work > heat ? 'e' : makes(heat, big(hot), heat - work, big(cold)) < 0 ? 'd' : '-';
     }
 
     public int bestWork(int heat, int hot, int cold) {
@@ -618,14 +631,14 @@ final class Plain {
     }
 
     public long checksum() {
-        long sum = 7;
-        for (long[] body : bodies) {
-            sum = 31 * sum + body[1];
+        BigInteger sum = big(7);
+        for (BigInteger[] body : bodies) {
+            sum = sum.multiply(big(31)).add(body[1]);
         }
-        for (long part : new long[] {work, made, energy, speed}) {
-            sum = 31 * sum + part;
+        for (BigInteger part : new BigInteger[] {work, big(made), energy, big(speed)}) {
+            sum = sum.multiply(big(31)).add(part);
         }
-        return sum;
+        return sum.longValue();
     }
 
     public float makingShare() {
@@ -639,11 +652,11 @@ final class Plain {
         if (bodies.isEmpty()) {
             throw new ArithmeticException();
         }
-        long sum = 0;
-        for (long[] body : bodies) {
-            sum += degrees(body);
+        BigInteger sum = BigInteger.ZERO;
+        for (BigInteger[] body : bodies) {
+            sum = sum.add(degrees(body));
         }
-        return (double) sum / (double) bodies.size();
+        return sum.doubleValue() / (double) bodies.size();
     }
 
     public boolean isSound() {

@@ -36,6 +36,9 @@ public final class PromiseTest {
         running();
         endedRuns();
         cards();
+        beyondAnInt();
+        beyondALong();
+        movesBeyondAnInt();
         streams();
         needs();
         governor();
@@ -594,6 +597,101 @@ public final class PromiseTest {
         due("30 not ended", () -> x.wasEnded(), false);
         x.setGas(1, 1, 300);
         due("34 of the last run", () -> x.cardAt(299) >= 0, true);
+    }
+
+    /** Strokes that in each cycle nearly double the energy of a body. */
+    private static Cycleworks heap(int runs) {
+        Cycleworks x = new Cycleworks();
+        x.addBody(300, 100);
+        x.addBody(300, 1000);
+        x.setGas(20, 100, 300);
+        x.addStroke('a', 1, 0);
+        x.addStroke('v', 1, 0);
+        x.addStroke('i', 100, 0);
+        for (int run = 0; run < runs; run++) {
+            x.runCycles(10);
+        }
+        return x;
+    }
+
+    private static void beyondAnInt() {
+        Cycleworks x = heap(1);
+        due("29 heaps up", () -> x.runCycles(5), -379846556);
+        due("31 heaped up", () -> x.gasEnergy(), 150060600);
+        x.clearStrokes();
+        x.addStroke('a', 1, 0);
+        x.addStroke('a', 100, 0);
+        // 2160674533 at the volume 1, and 37645735 behind it
+        due("29 beyond an int and back", () -> x.runCycles(1), 150060600 - 37645735);
+        due("30 not ended by a great energy", () -> x.wasEnded(), false);
+        due("31 back", () -> x.gasEnergy(), 37645735);
+        due("33 back", () -> x.gasVolume(), 100);
+        // from 1 to 2 the pressure ahead is 2 * 2160674533 / 3
+        due("34 a pressure of a great energy", () -> x.cardAt(99), 1440449688);
+        due("52 sound", () -> x.isSound(), true);
+    }
+
+    private static void beyondALong() {
+        Cycleworks x = heap(10);
+        due("30 not ended", () -> x.wasEnded(), false);
+        due("51 beyond a long", () -> x.meanTemperature() > 1e19, true);
+        due("52 sound", () -> x.isSound(), true);
+        int energy = x.getEnergy(0);
+        x.clearStrokes();
+        x.addStroke('v', 0, 0);
+        x.setGas(20, 1, 50);
+        due("29 no work", () -> x.runCycles(1), 0);
+        due("4 what the gas got", () -> x.getEnergy(0) + x.gasEnergy(), energy + 3000);
+        // each fresh gas takes 60 hundredths, and behind them all the body is as cold as the gas
+        for (int fresh = 0; fresh < 120; fresh++) {
+            x.setGas(20, 1, 50);
+            due("29 fresh", () -> x.runCycles(1), 0);
+            due("30 fresh", () -> x.wasEnded(), false);
+        }
+        due("3 cold again", () -> x.getTemperature(0), 50);
+        due("31 cold again", () -> x.gasEnergy(), 3000);
+        due("51 cold again", () -> x.meanTemperature(), 175.0);
+        due("52 sound again", () -> x.isSound(), true);
+    }
+
+    private static void movesBeyondAnInt() {
+        Cycleworks x = heap(10);
+        // 1 at 300 is 3, at any great temperature 0, and rounded up 1
+        due("5 from a great one", () -> x.conduct(0, 1, 1), 3 - 1);
+        due("5 not to a great one", () -> x.conduct(1, 0, 1), NOT);
+        due("5 much", () -> x.conduct(0, 1, 100000), 333333 - 1);
+        due("6 no rest", () -> x.runEngine(0, 1, 100000, 100000), NOT);
+        // at 400 now
+        due("6 a rest", () -> x.runEngine(0, 1, 100000, 99999), 2 - 1);
+        due("7 to a great one", () -> x.runPump(1, 0, 1, 100000), NOT);
+        due("7 from a great one", () -> x.runPump(0, 1, 1, 1), 5 - 1);
+        Cycleworks y = new Cycleworks();
+        y.addBody(1804, 1000);
+        y.addBody(300, 1000);
+        y.setGas(20, 1, 300);
+        y.addStroke('i', 10, 0);
+        y.addStroke('a', 1, 0);
+        y.addStroke('v', 1, 0);
+        for (int run = 0; run < 44; run++) {
+            y.runCycles(10);
+        }
+        y.runCycles(9);
+        due("4 near the greatest int", () -> y.getEnergy(0), 2147303763);
+        // 100001000 / 2147303, cut, is 46; 1000 / 300, rounded up, 4
+        due("7 up to it", () -> y.runPump(1, 0, 1, 100000), 46 - 4);
+        due("7 beyond it", () -> y.runPump(1, 0, 1, 100000), 46 - 4);
+        due("3 beyond it", () -> y.getTemperature(0), 2147503);
+        due("5 beyond it", () -> y.conduct(0, 1, 3), 10 - 1);
+        due("6 beyond it", () -> y.runEngine(0, 1, 3, 0), 10 - 1);
+        due("52 beyond it", () -> y.isSound(), true);
+        // the work of strokes is what both energies, less those at first, come to
+        long work = 1804000L + 18000 - 2147303763L - y.gasEnergy() - 200000;
+        long sum = 7;
+        for (long part : new long[] {2147503765L - 6, 300004, work, 42 + 42 + 9 + 9, y.gasEnergy(), 1000}) {
+            sum = 31 * sum + part;
+        }
+        long dueSum = sum;
+        due("49 beyond it", () -> y.checksum(), dueSum);
     }
 
     private static void streams() {

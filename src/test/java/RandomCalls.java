@@ -24,12 +24,15 @@ final class RandomCalls {
 
     RandomCalls(long seed) {
         random = new Random(seed);
-        kindOfRun = random.nextInt(8);
+        kindOfRun = random.nextInt(9);
         if (kindOfRun == 2 || kindOfRun == 6) {
             planPlant();
         }
         if (kindOfRun == 3 || kindOfRun == 7) {
             planCylinder();
+        }
+        if (kindOfRun == 8) {
+            planHeap();
         }
     }
 
@@ -103,6 +106,55 @@ final class RandomCalls {
             plan("checksum");
             plan("clearStrokes");
         }
+    }
+
+    /** Strokes that heap up energy beyond every int and mostly every long, and fresh gases that take it down again. */
+    private void planHeap() {
+        int bodies = within(1, 3);
+        for (int body = 0; body < bodies; body++) {
+            plan("addBody", within(50, 2000), within(60, random.nextBoolean() ? 150 : 1000));
+        }
+        for (int heap = within(1, 2); heap > 0; heap--) {
+            plan("setGas", within(1, 20), 100, within(50, 2000));
+            for (int body : random.nextBoolean() ? List.of(0) : List.of(0, bodies - 1)) {
+                plan("addStroke", 'a', within(1, 3), 0);
+                plan("addStroke", 'v', 0, within(0, bodies - 1));
+                plan("addStroke", 'i', within(70, 100), body);
+            }
+            for (int run = within(1, 25); run > 0; run--) {
+                plan("runCycles", within(6, 10));
+                planMoves(bodies);
+            }
+            plan("clearStrokes");
+            plan("addStroke", 'v', 0, within(0, bodies - 1));
+            plan("addStroke", 'a', 100, 0);
+            plan("addStroke", 'v', 0, within(0, bodies - 1));
+            for (int run = within(1, 60); run > 0; run--) {
+                plan("setGas", within(1, 20), within(1, 100), within(50, 2000));
+                plan("runCycles", within(1, 2));
+                planMoves(bodies);
+            }
+            plan("clearStrokes");
+        }
+    }
+
+    /** What bodies do and tell between two runs of a cylinder. */
+    private void planMoves(int bodies) {
+        plan("wasEnded");
+        plan("checksum");
+        plan("meanTemperature");
+        String[] chosen = {"conduct", "runEngine", "runPump", "getTemperature", "getEnergy", "cardAt", "gasPressure",
+            "gasEnergy", "getWork", "getMade"};
+        for (int more = 0; more < 3; more++) {
+            String name = chosen[random.nextInt(chosen.length)];
+            Object[] numbers = meant(named(name));
+            for (int i = 0; i < numbers.length && (i < 2 || name.equals("cardAt")); i++) {
+                numbers[i] = within(0, name.equals("cardAt") ? 300 : bodies - 1);
+            }
+            plan(name, numbers);
+        }
+        plan("checksum");
+        plan("isSound");
     }
 
     boolean hasPlanned() {
