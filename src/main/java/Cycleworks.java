@@ -565,10 +565,11 @@ public final class Cycleworks {
         }
 
         private void endAt(int places) {
-            count = Math.min(places, others.length + 1);
-            while (count > 0 && digitAt(count - 1) == 0) {
-                count--;
+            int last = (places <= others.length ? places : others.length + 1) - 1;
+            while (last > 0 && last <= others.length && others[last - 1] == 0) {
+                last--;
             }
+            count = last > 0 || first != 0 ? last + 1 : 0;
         }
 
         void set(long number) {
@@ -598,7 +599,8 @@ public final class Cycleworks {
         }
 
         void copy(Whole other) {
-            setTimes(other, 1);
+            set(0);
+            setSum(this, other, 1);
         }
 
         /** Becomes a number of times another one. */
