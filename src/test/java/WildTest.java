@@ -1,5 +1,4 @@
 import java.lang.reflect.Method;
-import java.util.ArrayList;
 import java.util.Arrays;
 import java.util.List;
 
@@ -11,32 +10,6 @@ public final class WildTest {
     private WildTest() {
     }
 
-    /** All that the face tells without a change. */
-    private static List<Object> told(Cycleworks x) {
-        List<Object> all = new ArrayList<>();
-        for (int i = 0; i < 8; i++) {
-            int number = i;
-            all.add(Check.outcome(() -> x.getEnergy(number)));
-            all.add(Check.outcome(() -> x.partWork(number)));
-            all.add(Check.outcome(() -> x.partHeat(number)));
-            all.add(Check.outcome(() -> x.partLost(number)));
-            all.add(Check.outcome(() -> x.heatAhead(number)));
-            all.add(Check.outcome(() -> x.pressureAhead(number)));
-        }
-        for (int index : new int[] {0, 1, 298, 299}) {
-            all.add(Check.outcome(() -> x.cardAt(index)));
-        }
-        for (int pressure = 1; pressure < 1000; pressure += 37) {
-            int at = pressure;
-            all.add(Check.outcome(() -> x.getVapour(at)));
-        }
-        all.add(Check.outcome(() -> x.wasEnded()));
-        all.add(Check.outcome(() -> x.makingShare()));
-        all.add(Arrays.asList(x.getWork(), x.getMade(), x.gasEnergy(), x.gasVolume(), x.gasPressure(), x.checksum()));
-        all.add(Arrays.asList(x.heatNeeded(10), x.coldNeeded(10), x.getValve(), x.countTurns(), x.isTripped()));
-        return all;
-    }
-
     private static void randomRuns(Check check) {
         for (int run = 0; run < 1500; run++) {
             RandomCalls calls = new RandomCalls(1000000L + run);
@@ -44,14 +17,14 @@ public final class WildTest {
             for (int call = 0; call < 512; call++) {
                 Method method = calls.method();
                 Object[] numbers = calls.arguments(method);
-                List<Object> before = call % 8 == 0 ? told(x) : null;
+                List<Object> before = call % 8 == 0 ? Told.still(x) : null;
                 Object got = RandomCalls.outcome(x, method, numbers);
                 if (got instanceof Class) {
                     String what = "run " + run + ", call " + call + ": " + method.getName() + Arrays.toString(numbers);
                     check.is(what + " throws what is documented: " + got,
                             Arrays.asList(method.getExceptionTypes()).contains(got), true);
                     if (before != null) {
-                        check.is(what + " changes nothing", told(x), before);
+                        check.is(what + " changes nothing", Told.still(x), before);
                     }
                 }
             }
