@@ -188,6 +188,40 @@ final class CylinderSentences extends Chapter {
         // a step in gives it 10, so it stays at 50
         due(() -> ran(atTheEdge("i 9"), 1).wasEnded(), false);
         due(() -> ran(atTheEdge("i 9"), 1).getEnergy(0), 160);
+        // a gas of 149 lacks 1, which no body at 50 has; one at 51 of the capacity 4 has the 4 that are lacking then
+        for (int capacity : new int[] {1, 1000}) {
+            Make least = () -> add(gas(BodySentences.with(50, capacity), 1, 99, 50), "a 100", "v");
+            due(least, x -> x.runCycles(1), 1);
+            due(() -> ran(least.make(), 1).wasEnded(), true);
+            due(() -> ran(least.make(), 1).getEnergy(0), 50 * capacity);
+            due(() -> ran(least.make(), 1).gasEnergy(), 149);
+        }
+        for (int capacity : new int[] {3, 4, 5}) {
+            Make near = () -> ran(add(gas(BodySentences.with(51, capacity), 1, 99, 50), "a 100", "v"), 1);
+            due(near, x -> x.wasEnded(), capacity == 3);
+            due(near, x -> x.gasEnergy(), capacity == 3 ? 149 : 153);
+            due(near, x -> x.getEnergy(0), 51 * capacity - (capacity == 3 ? 0 : 4));
+        }
+        Make tight = () -> ran(add(gas(BodySentences.with(50, 10), 1, 99, 50), "i 100"), 1);
+        due(tight, x -> x.wasEnded(), true);
+        due(tight, x -> x.gasVolume(), 99);
+        due(tight, x -> x.gasEnergy(), 150);
+        // what is wanted is more than the body and the gas have together: 3000 and 2000 of 120000
+        Make great = () -> ran(add(gas(BodySentences.with(2000, 1), 20, 10, 50), "v"), 1);
+        due(great, x -> x.wasEnded(), true);
+        due(great, x -> x.getEnergy(0), 2000);
+        due(great, x -> x.gasEnergy(), 3000);
+        due(great, x -> Check.outcome(() -> x.cardAt(0)), NONE);
+        // the steps ahead of it stay: of 153 at 51, 10 are made and got, but not 9 more and the 6 lacking then
+        Make second = () -> ran(add(gas(BodySentences.with(51, 11), 1, 10, 51), "i 20"), 1);
+        due(second, x -> x.wasEnded(), true);
+        due(second, x -> x.gasVolume(), 11);
+        due(second, x -> x.gasEnergy(), 153);
+        due(second, x -> x.getEnergy(0), 551);
+        due(second, x -> x.getWork(), 10);
+        due(second, x -> x.cardAt(0), 10);
+        due(second, x -> Check.outcome(() -> x.cardAt(1)), NONE);
+        due(second, x -> x.runCycles(10) + x.gasEnergy(), 153);
         // neither another stroke nor another cycle comes behind it, till the next run
         due(() -> atTheEdge("a 11", "v", "a 12").runCycles(10), 10);
         due(() -> ran(atTheEdge("a 11", "v", "a 12"), 10).gasVolume(), 11);

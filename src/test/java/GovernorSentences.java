@@ -78,11 +78,27 @@ final class GovernorSentences extends Chapter {
         due(() -> y.setLoad(47), 50);
         due(() -> y.runSeconds(2), 1012 + 8);
         due(() -> y.getValve(), 49);
+        // as fast as set it goes nowhere, not even back by 0: 8 too slow are 0.8
+        Cycleworks still = new Cycleworks();
+        due(() -> still.runSeconds(500), 1000);
+        due(() -> still.setLoad(52), 50);
+        due(() -> still.runSeconds(3), 1000 - 8 - 8 - 4);
+        due(() -> still.getValve(), 51);
+        due(() -> still.countTurns(), 0);
         // without a load it rises to 1320
         Cycleworks z = new Cycleworks();
         due(() -> z.setLoad(0), 50);
         due(() -> z.runSeconds(500), 1320);
         due(() -> z.isTripped(), false);
+        // and higher with a valve that a full load has opened: 1080 at 100, 1448 at 92, 1640 at 48, then at 0
+        Cycleworks open = new Cycleworks();
+        due(() -> open.setLoad(100), 50);
+        due(() -> open.runSeconds(500), 680);
+        due(() -> open.getValve(), 100);
+        due(() -> open.setLoad(0), 100);
+        due(() -> open.runSeconds(2), 1448);
+        due(() -> open.runSeconds(500), 1640);
+        due(() -> open.isTripped(), false);
     }
 
     private void numbers() {

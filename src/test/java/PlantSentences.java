@@ -14,12 +14,12 @@ final class PlantSentences extends Chapter {
         return x;
     }
 
-    private static Cycleworks ring(String... parts) {
+    static Cycleworks ring(String... parts) {
         return add(VapourSentences.steam(), parts);
     }
 
     /** A ring between 10 and 200 behind which a state of 2709 is as it was, solved. */
-    private static Cycleworks solved(int quality) {
+    static Cycleworks solved(int quality) {
         Cycleworks x = ring("t 10 " + quality, "c", "p 200", "h 2500");
         x.solve(200, 2709);
         return x;
@@ -32,6 +32,11 @@ final class PlantSentences extends Chapter {
     /** Hardly any heat of liquid between its rows, far above which there is vapour. */
     private static Cycleworks flat(String... parts) {
         return add(VapourSentences.with(10, 100, 400, 9000, 19, 500, 401, 9001, 29, 501, 402, 9002), parts);
+    }
+
+    /** Hardly a degree between its rows, but much heat of liquid. */
+    private static Cycleworks even(String... parts) {
+        return add(VapourSentences.with(10, 100, 400, 9000, 19, 101, 5000, 9001), parts);
     }
 
     private static Cycleworks full() {
@@ -135,6 +140,15 @@ final class PlantSentences extends Chapter {
             due(flat, x -> x.solve(19, heat) + x.partWork(0), 1);
             due(flat, x -> x.solve(19, heat) + x.partLost(0), 1);
         }
+        // 4500 above the 400 of liquid at 10, but 76 degrees, or 100, are none above the 100 there
+        for (int heat : new int[] {4900, 4996}) {
+            due(() -> even("t 10 100", "p 19"), x -> x.solve(19, heat), 1);
+            due(() -> even("t 10 100", "p 19"), x -> x.solve(19, heat) + x.partWork(0), 1);
+            due(() -> even("t 10 100", "p 19"), x -> x.solve(19, heat) + x.partLost(0), 1);
+        }
+        // the least of degrees above 0: 4600 * 1 / 101 is 45.5
+        due(() -> even("t 10 100", "p 19", "h 45"), x -> x.solve(19, 5000), 1);
+        due(() -> even("t 10 100", "p 19", "h 45"), x -> x.solve(19, 5000) + x.partWork(0), 1 + 45);
         // the least of both above 0: 5 * 1 / 321 is 0.02; 2 * 400 / 500 is 1.6
         due(() -> ring("t 10 100", "p 19").solve(19, 196), 1);
         due(() -> flat("t 10 100", "p 19", "h 1"), x -> x.solve(19, 402), 1);
@@ -211,6 +225,10 @@ final class PlantSentences extends Chapter {
         refuses(() -> ring("c"), x -> x.solve(201, 2000), NOT);
         due(() -> ring("c").solve(200, 910), 1);
         refuses(() -> ring("p 201", "v 10", "c"), x -> x.solve(10, 190), NOT);
+        // nor is such a part passed by, without which the state would close
+        refuses(() -> ring("p 201", "c"), x -> x.solve(10, 190), NOT);
+        refuses(() -> ring("v 9", "c"), x -> x.solve(10, 190), NOT);
+        refuses(() -> ring("t 9 50", "c"), x -> x.solve(10, 190), NOT);
         due(() -> ring("p 200", "v 10", "c").solve(10, 190), 1);
         refuses(() -> ring("v 9", "p 10", "c"), x -> x.solve(10, 190), NOT);
         refuses(() -> ring("t 9 50", "p 10", "c"), x -> x.solve(10, 190), NOT);
@@ -422,6 +440,20 @@ final class PlantSentences extends Chapter {
         due(() -> solved(0).plantWork(), -19);
         due(() -> ring("c"), x -> x.solve(10, 190) + x.plantWork(), 1);
         due(() -> ring("p 20", "v 10", "p 30", "v 10", "c"), x -> x.solve(10, 190) + x.plantWork(), 1 - 3);
+        // of another ring nothing is left, neither the work of its turbine and pump nor the heat of its condenser
+        Cycleworks other = half();
+        due(() -> other.solve(200, 2709), 1);
+        due(() -> other.solve(200, 2709) + other.clearParts(), 1 + 4);
+        add(other, "h 7", "p 20", "v 10", "c");
+        due(() -> other.solve(10, 190), 1);
+        int[][] parts = {{0, 7, 0}, {-1, 0, 0}, {0, 0, 0}, {0, -8, 0}};
+        for (int part = 0; part < 4; part++) {
+            int i = part;
+            due(() -> other.partWork(i), parts[i][0]);
+            due(() -> other.partHeat(i), parts[i][1]);
+            due(() -> other.partLost(i), parts[i][2]);
+        }
+        due(() -> other.plantWork(), -1);
         says("Throws IllegalStateException if no state was solved");
         refuses(Cycleworks::new, x -> x.plantWork(), STATE);
         refuses(() -> ring("c"), x -> x.plantWork(), STATE);

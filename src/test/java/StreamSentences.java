@@ -21,6 +21,22 @@ final class StreamSentences extends Chapter {
         return x;
     }
 
+    /** Ten streams of which the last one, of the kind that is told, has the pinch: 9 hot ones give 1 each at first. */
+    private static Cycleworks lastOfTen(boolean cold) {
+        Cycleworks x = new Cycleworks();
+        for (int stream = 0; stream < 8; stream++) {
+            x.addStream(501 + stream, 500 + stream, 1);
+        }
+        if (cold) {
+            x.addStream(300, 200, 1);
+            x.addStream(400, 500, 1);
+        } else {
+            x.addStream(350, 500, 1);
+            x.addStream(400, 200, 2);
+        }
+        return x;
+    }
+
     /** Heat that two cold streams lack, one above the other, by a hot one between them. */
     private static Cycleworks twice(int lower) {
         return with(80, 70, 1, 80, 90, 1, 60, 60 + lower, 1);
@@ -127,6 +143,13 @@ final class StreamSentences extends Chapter {
         due(() -> with(60, 50, 3, 50, 70, 2).pinch(9), 51);
         due(() -> with(60, 50, 3, 50, 70, 2).pinch(10), 50);
         due(() -> with(60, 50, 3, 50, 70, 2).pinch(100), 50);
+        // 8 given, then 100 taken down to 400, where the last one of ten goes from
+        for (boolean cold : new boolean[] {true, false}) {
+            due(() -> lastOfTen(cold).pinch(0), 400);
+            due(() -> lastOfTen(cold).heatNeeded(0), 92);
+        }
+        due(() -> lastOfTen(true).coldNeeded(0), 8 + 100 - 100 + 92);
+        due(() -> lastOfTen(false).coldNeeded(0), 8 + 400 - 150 + 92);
         refuses(Cycleworks::new, x -> x.pinch(0), NONE);
         refuses(() -> with(100, 90, 1, 80, 90, 1), x -> x.pinch(0), NONE);
         due(() -> with(100, 90, 1, 79, 90, 1).pinch(0), 79);

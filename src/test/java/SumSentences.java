@@ -277,6 +277,13 @@ final class SumSentences extends Chapter {
         due(() -> BodySentences.with(51, 1, 50, 1, 50, 1, 50, 1, 50, 1, 50, 1, 50, 1).meanTemperature(), 351.0 / 7.0);
         due(() -> BodySentences.with(2000, 1, 2000, 1, 2000, 1, 2000, 1, 2000, 1, 2000, 1, 2000, 1, 1999, 1)
                 .meanTemperature(), 1999.875);
+        // however often it is asked, also behind an exchange by strokes: 300 and 401, then 294 and 401
+        Cycleworks often = BodySentences.with(300, 10, 401, 10);
+        due(() -> often.meanTemperature(), 350.5);
+        due(() -> often.meanTemperature(), 350.5);
+        due(() -> often.addStroke('i', 11, 0) + often.runCycles(1), 1 + 60);
+        due(() -> often.meanTemperature(), 347.5);
+        due(() -> often.meanTemperature(), 347.5);
         // of the temperatures, cut: 599 and 300
         due(SumSentences::two, x -> x.conduct(0, 1, 1) > 0 ? x.meanTemperature() : -1, 449.5);
         says("Throws ArithmeticException if there are none");
@@ -346,6 +353,20 @@ final class SumSentences extends Chapter {
         due(() -> usedUp().isSound(), true);
         says("Returns whether the energies of bodies and of the gas, and the work, sum up to what was put in");
         due(() -> soundWith(0, "sums", "work", -1), true);
+        Cycleworks x = used();
+        due(() -> x.setGas(20, 100, 2000) > 0, true);
+        due(() -> x.isSound(), true);
+        due(() -> x.runCycles(10) != 0, true);
+        due(() -> x.isSound(), true);
+        due(() -> x.setGas(1, 1, 50) > 0, true);
+        due(() -> x.isSound(), true);
+        due(() -> x.runPump(0, 1, 1, 100000) + x.runPump(1, 0, 1, 100000) > 0, true);
+        due(() -> x.isSound(), true);
+        due(() -> x.addBody(2000, 1000), 2);
+        due(() -> x.isSound(), true);
+        due(() -> new Cycleworks(), y -> y.setGas(1, 10, 300) == 900 && y.isSound(), true);
+        due(() -> new Cycleworks(), y -> y.setGas(20, 10, 2000) == 900 && y.isSound(), true);
+        due(() -> new Cycleworks(), y -> y.setGas(1, 10, 50) == 900 && y.isSound(), true);
         for (int more : new int[] {-1, 1}) {
             due(() -> soundWith(more, "sums", "work", -1), false);
             due(() -> soundWith(more, "sums", "putIn", -1), false);
@@ -364,6 +385,12 @@ final class SumSentences extends Chapter {
         due(() -> soundWith(-made - 1, "sums", "made", -1), false);
         says("and the work of a plant that closed is the sum of its heats.");
         due(() -> soundWith(0, "ring.solved", "works", 0), true);
+        for (int quality : new int[] {0, 50, 100}) {
+            due(() -> PlantSentences.solved(quality).plantWork() != 0, true);
+            due(() -> PlantSentences.solved(quality).isSound(), true);
+        }
+        due(() -> PlantSentences.ring("h 9999", "c").solve(10, 190), 1);
+        due(() -> PlantSentences.ring("h 9999", "c"), y -> y.solve(10, 190) == 1 && y.isSound(), true);
         for (int more : new int[] {-1, 1}) {
             due(() -> soundWith(more, "ring.solved", "works", 0), false);
             due(() -> soundWith(more, "ring.solved", "heats", 0), false);
