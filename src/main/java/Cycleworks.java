@@ -11,6 +11,8 @@ public final class Cycleworks {
     private static final int MOST_STATE_HEAT = 20000;
     private static final int MOST_PRESSURE = 1000;
     private static final int MOST_ROW_HEAT = 9999;
+    /** Above 1000 times any heat that is moved. */
+    private static final int MOST_DIVISOR = 1 << 30;
 
     private final Bodies bodies = new Bodies();
     private final Table table = new Table();
@@ -500,10 +502,10 @@ public final class Cycleworks {
         return by < 1 ? 0 : number / by;
     }
 
-    /** A heat is so small that a temperature beyond an int divides it as the greatest int does. */
+    /** A heat is so small that a temperature beyond the greatest divisor divides it as that one does. */
     private static int disorderMade(int taken, long hot, int given, long cold) {
-        int divisorOfTaken = (int) Math.min(hot, Integer.MAX_VALUE);
-        int divisorOfGiven = (int) Math.min(cold, Integer.MAX_VALUE);
+        int divisorOfTaken = (int) Math.min(hot, MOST_DIVISOR);
+        int divisorOfGiven = (int) Math.min(cold, MOST_DIVISOR);
         return dividedDown(1000 * given, divisorOfGiven) - dividedUp(1000 * taken, divisorOfTaken);
     }
 

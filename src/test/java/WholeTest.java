@@ -108,7 +108,29 @@ public final class WholeTest {
         CHECK.is(y + " untouched", read(b), y);
     }
 
+    /** A number whose highest of some digits is not 0. */
+    private static BigInteger ofDigits(int digits) {
+        return new BigInteger(50 * digits - 1, RANDOM).setBit(50 * digits - 1);
+    }
+
+    /** Digits that a greater number left behind are none of a smaller one. */
+    private static void shrunk(int first, int second, int third) throws Exception {
+        Object reused = whole();
+        call(reused, "setTimes", made(ofDigits(first)), 1);
+        call(reused, "setQuotient", made(ofDigits(second)), 1);
+        BigInteger last = ofDigits(third);
+        call(reused, "setTimes", made(last), 1);
+        CHECK.is("of " + first + ", then " + second + ", then " + third + " digits", read(reused), last);
+    }
+
     public static void main(String[] args) throws Exception {
+        for (int first = 1; first <= 4; first++) {
+            for (int second = 1; second <= 2 * first + 4; second++) {
+                for (int third = 1; third <= second; third++) {
+                    shrunk(first, second, third);
+                }
+            }
+        }
         for (int pair = 0; pair < 8000; pair++) {
             one(chosen(), chosen());
         }
